@@ -599,8 +599,10 @@ public final class Cloudseed {
             System.arraycopy(other.goodVisits, 0, goodVisits, 0, MOST_TARGETS);
             System.arraycopy(other.goodNights, 0, goodNights, 0, MOST_TARGETS);
             System.arraycopy(other.goodPhases, 0, goodPhases, 0, MOST_TARGETS);
-            System.arraycopy(other.servedAlerts, 0, servedAlerts, 0, MOST_ALERTS);
             System.arraycopy(other.countedSlots, 0, countedSlots, 0, GROUPS);
+            for (int alert = 0; alert < MOST_ALERTS; alert++) {
+                servedAlerts[alert] = other.servedAlerts[alert];
+            }
         }
 
         boolean isWanted(Target target, int night) {

@@ -74,8 +74,9 @@ public final class ReplayTest {
         x.run(48);
         CHECK.due("24: the group 0 in the night 0", x.slots(0, false), 6);
         CHECK.due("24: the group 1 in the night 1", x.slots(1, false), 5);
-        CHECK.due("29: one visit of six", x.replay(0), 1);
         CHECK.due("29: with the slots that counted then", x.replay(1), 2);
+        CHECK.due("29: one visit of six", x.replay(0), 1);
+        CHECK.due("29: with none that count", x.replay(0), 1);
         x.share(0, 100);
         x.share(1, 0);
         CHECK.due("29: with the shares of now", x.replay(1), 1);
