@@ -112,7 +112,8 @@ public final class ModelTest {
         } else if (kind < 60) {
             ask("mount", arg(0, 2), some(0, 2) == 0 ? arg(0, 29) : Math.min(29, x.now() / 24 + 1), arg(0, 2));
         } else if (kind < 65) {
-            ask("calibrate", arg(0, 2), some(0, 1) == 0 ? 0 : arg(0, 2), some(0, 1) == 0 ? arg(0, 29) : Math.min(29, x.now() / 24));
+            ask("calibrate", arg(0, 2), some(0, 1) == 0 ? 0 : arg(0, 2),
+                    some(0, 1) == 0 ? arg(0, 29) : Math.min(29, x.now() / 24));
         } else if (kind < 67) {
             ask("moon", arg(0, 29));
         } else if (kind < 69) {
