@@ -14,12 +14,6 @@ public final class DataTest {
         CHECK.end();
     }
 
-    private static void datum(Cloudseed x, int data, int... want) {
-        for (int what = 0; what < want.length; what++) {
-            CHECK.due("27: data " + data + ", what " + what, x.datum(data, what), want[what]);
-        }
-    }
-
     private static void parts() {
         Cloudseed x = Skies.three();
         x.proposal(0, 0, 91, 0);
@@ -33,9 +27,9 @@ public final class DataTest {
         CHECK.fails("27: none", Check.INDEX, () -> x.datum(0, 0));
         x.run(3);
         CHECK.due("26: three", x.data(), 3);
-        datum(x, 0, Cloudseed.ALERT, 0, 0, 0, 90, 1, 0);
-        datum(x, 1, Cloudseed.TARGET, 0, 1, 1, 90, 0, 0);
-        datum(x, 2, Cloudseed.TARGET, 1, 2, 2, 90, 1, 0);
+        CHECK.datum(x, 0, Cloudseed.ALERT, 0, 0, 0, 90, 1, 0);
+        CHECK.datum(x, 1, Cloudseed.TARGET, 0, 1, 1, 90, 0, 0);
+        CHECK.datum(x, 2, Cloudseed.TARGET, 1, 2, 2, 90, 1, 0);
         CHECK.fails("27: data 3", Check.INDEX, () -> x.datum(3, 7));
         CHECK.fails("27: data -1", Check.INDEX, () -> x.datum(-1, 0));
         CHECK.fails("27: what 7", Check.ARGUMENT, () -> x.datum(0, 7));
@@ -50,11 +44,11 @@ public final class DataTest {
         x.weather(0, 0, 2, 2, 1);
         x.weather(0, 0, 3, 3, 50);
         x.run(3);
-        datum(x, 0, Cloudseed.TARGET, 0, 0, 2, 60, 1, 0);
+        CHECK.datum(x, 0, Cloudseed.TARGET, 0, 0, 2, 60, 1, 0);
         x.weather(0, 1, 0, 0, 20);
         x.weather(0, 1, 1, 23, 5);
         x.run(24);
-        datum(x, 1, Cloudseed.TARGET, 0, 0, 26, 75, 1, 0);
+        CHECK.datum(x, 1, Cloudseed.TARGET, 0, 0, 26, 75, 1, 0);
     }
 
     private static void qualityOfAVisitHandedOver() {
@@ -77,7 +71,7 @@ public final class DataTest {
         x.run(48);
         x.run(3);
         // The seeing is of the site 0, the calibration that of the site 1.
-        datum(x, 0, Cloudseed.TARGET, 0, 1, 50, 60, 1, 1);
+        CHECK.datum(x, 0, Cloudseed.TARGET, 0, 1, 50, 60, 1, 1);
     }
 
     private static void qualityByCalibration() {
@@ -91,11 +85,11 @@ public final class DataTest {
         x.run(48);
         x.run(1);
         int last = x.data() - 1;
-        datum(x, last, Cloudseed.TARGET, 0, 0, 144, 59, 0, 0);
-        datum(x, last - 1, Cloudseed.TARGET, 0, 0, 120, 65, 1, 0);
+        CHECK.datum(x, last, Cloudseed.TARGET, 0, 0, 144, 59, 0, 0);
+        CHECK.datum(x, last - 1, Cloudseed.TARGET, 0, 0, 120, 65, 1, 0);
         x.calibrate(0, 0, 6);
         x.run(1);
-        datum(x, last + 1, Cloudseed.TARGET, 0, 0, 145, 89, 1, 6);
+        CHECK.datum(x, last + 1, Cloudseed.TARGET, 0, 0, 145, 89, 1, 6);
     }
 
     private static void alertsAreAlwaysGood() {
@@ -106,7 +100,7 @@ public final class DataTest {
         x.run(48);
         x.run(48);
         x.run(6);
-        datum(x, 0, Cloudseed.ALERT, 0, 0, 149, 20, 1, 0);
+        CHECK.datum(x, 0, Cloudseed.ALERT, 0, 0, 149, 20, 1, 0);
         CHECK.due("23: served", x.served(0), true);
     }
 
@@ -123,7 +117,7 @@ public final class DataTest {
         x.alert(1, 1, 60, 0, 1, 0, 4, 5, 5);
         x.run(2);
         CHECK.due("26: not more", x.data(), 100);
-        datum(x, 99, Cloudseed.TARGET, 0, 0, 99, 70, 0, 0);
+        CHECK.datum(x, 99, Cloudseed.TARGET, 0, 0, 99, 70, 0, 0);
         CHECK.fails("27: no hundred and first", Check.INDEX, () -> x.datum(100, 0));
         CHECK.due("22: the visit is good", x.visits(1), 1);
         CHECK.due("23: the alert is served", x.served(0), true);
@@ -141,9 +135,9 @@ public final class DataTest {
         Skies.easy(x, 2, 1, 1);
         x.fault(0, 0, 0, 23);
         x.run(27);
-        datum(x, 0, Cloudseed.TARGET, 1);
-        datum(x, 1, Cloudseed.TARGET, 2);
-        datum(x, 2, Cloudseed.TARGET, 0);
+        CHECK.datum(x, 0, Cloudseed.TARGET, 1);
+        CHECK.datum(x, 1, Cloudseed.TARGET, 2);
+        CHECK.datum(x, 2, Cloudseed.TARGET, 0);
         CHECK.due("28: nobody ahead of it", x.reads(3, 2, 0), false);
         CHECK.due("28: its group at once", x.reads(3, 2, 1), true);
         CHECK.due("28: no other group", x.reads(0, 2, 1), false);
@@ -169,7 +163,7 @@ public final class DataTest {
         Skies.easy(x, 0, 1, 1);
         x.alert(1, 1, 60, 0, 1, 0, 1, 0, 23);
         x.run(25);
-        datum(x, 1, Cloudseed.ALERT, 0);
+        CHECK.datum(x, 1, Cloudseed.ALERT, 0);
         for (int group = 0; group < 4; group++) {
             CHECK.due("28: by all", x.reads(group, 1, 1), true);
             CHECK.due("28: by nobody ahead of it", x.reads(group, 1, 0), false);

@@ -25,16 +25,6 @@ public final class RunTest {
         CHECK.end();
     }
 
-    private static void going(String what, Cloudseed x, int site, int kind, int number, int had) {
-        CHECK.due(what + ": kind", x.goingOn(site, 0), kind);
-        CHECK.due(what + ": number", x.goingOn(site, 1), number);
-        CHECK.due(what + ": slots", x.goingOn(site, 2), had);
-    }
-
-    private static void idle(String what, Cloudseed x, int site) {
-        going(what, x, site, Cloudseed.IDLE, Cloudseed.NONE, 0);
-    }
-
     private static void runAndNow() {
         Cloudseed x = new Cloudseed();
         CHECK.fails("18: 0 slots", Check.ARGUMENT, () -> x.run(0));
@@ -57,16 +47,16 @@ public final class RunTest {
     private static void goingOn() {
         Cloudseed x = Skies.one();
         x.proposal(0, 0, 0, 0);
-        idle("20: at first", x, 0);
+        CHECK.idle("20: at first", x, 0);
         x.run(1);
         Skies.easy(x, 0, 2, 1);
         x.run(1);
-        going("20: begun", x, 0, Cloudseed.TARGET, 0, 1);
+        CHECK.going("20: begun", x, 0, Cloudseed.TARGET, 0, 1);
         x.run(1);
-        idle("20: done", x, 0);
+        CHECK.idle("20: done", x, 0);
         Skies.alert(x, 1, 1, 3, 3, 23);
         x.run(2);
-        going("20: an alert", x, 0, Cloudseed.ALERT, 0, 2);
+        CHECK.going("20: an alert", x, 0, Cloudseed.ALERT, 0, 2);
         CHECK.fails("20: site 3", Check.INDEX, () -> x.goingOn(3, 3));
         CHECK.fails("20: site -1", Check.INDEX, () -> x.goingOn(-1, 0));
         CHECK.fails("20: what 3", Check.ARGUMENT, () -> x.goingOn(0, 3));
@@ -80,10 +70,10 @@ public final class RunTest {
         x.weather(0, 0, 2, 2, 0);
         x.fault(0, 0, 4, 5);
         x.run(3);
-        idle("20: closed", x, 0);
+        CHECK.idle("20: closed", x, 0);
         CHECK.due("21: it waits", x.waiting(), 1);
         x.run(1);
-        going("20: it goes on", x, 0, Cloudseed.TARGET, 0, 3);
+        CHECK.going("20: it goes on", x, 0, Cloudseed.TARGET, 0, 3);
         CHECK.due("21: none waits", x.waiting(), 0);
         x.run(1);
         CHECK.due("21: a fault breaks it off", x.waiting(), 1);
@@ -102,11 +92,11 @@ public final class RunTest {
         x.weather(0, 0, 2, 5, 0);
         x.weather(1, 0, 3, 9, 0);
         x.run(2);
-        going("20: on the site 0", x, 0, Cloudseed.TARGET, 0, 2);
+        CHECK.going("20: on the site 0", x, 0, Cloudseed.TARGET, 0, 2);
         x.run(1);
-        going("20: in the same slot on the site 1", x, 1, Cloudseed.TARGET, 0, 3);
+        CHECK.going("20: in the same slot on the site 1", x, 1, Cloudseed.TARGET, 0, 3);
         x.run(1);
-        going("20: then on the site 2", x, 2, Cloudseed.TARGET, 0, 4);
+        CHECK.going("20: then on the site 2", x, 2, Cloudseed.TARGET, 0, 4);
         x.run(1);
         CHECK.due("27: the site where it was done", x.datum(0, 2), 2);
         CHECK.due("24: of all sites", x.slots(0, false), 5);
@@ -126,13 +116,13 @@ public final class RunTest {
         x.run(1);
         CHECK.due("21: all wait", x.waiting(), 3);
         x.run(1);
-        going("20: the target 1 waits longest", x, 0, Cloudseed.TARGET, 1, 2);
+        CHECK.going("20: the target 1 waits longest", x, 0, Cloudseed.TARGET, 1, 2);
         x.run(1);
-        going("20: the lowest of the others", x, 2, Cloudseed.TARGET, 0, 3);
+        CHECK.going("20: the lowest of the others", x, 2, Cloudseed.TARGET, 0, 3);
         x.weather(0, 0, 5, 5, 0);
         x.weather(2, 0, 6, 6, 0);
         x.run(2);
-        going("20: since it was broken off last", x, 0, Cloudseed.TARGET, 2, 3);
+        CHECK.going("20: since it was broken off last", x, 0, Cloudseed.TARGET, 2, 3);
         CHECK.due("21: two wait", x.waiting(), 2);
     }
 
@@ -145,7 +135,7 @@ public final class RunTest {
         x.run(14);
         CHECK.due("21: it waits in the slot 14", x.waiting(), 1);
         x.run(1);
-        going("20: it lacks 2, and is high for 1", x, 0, Cloudseed.IDLE, Cloudseed.NONE, 0);
+        CHECK.going("20: it lacks 2, and is high for 1", x, 0, Cloudseed.IDLE, Cloudseed.NONE, 0);
         CHECK.due("21: it still waits", x.waiting(), 1);
         Cloudseed y = Skies.one();
         y.proposal(0, 0, 0, 0);
@@ -161,11 +151,11 @@ public final class RunTest {
         Skies.alert(x, 2, 1, 3, 0, 23);
         x.weather(0, 0, 2, 23, 0);
         x.run(2);
-        going("20: an alert", x, 0, Cloudseed.ALERT, 0, 2);
+        CHECK.going("20: an alert", x, 0, Cloudseed.ALERT, 0, 2);
         x.run(1);
         CHECK.due("21: alerts do not wait", x.waiting(), 0);
         CHECK.due("24: given back", x.slots(2, true), 2);
-        going("20: begun again at once", x, 1, Cloudseed.ALERT, 0, 1);
+        CHECK.going("20: begun again at once", x, 1, Cloudseed.ALERT, 0, 1);
         x.run(2);
         CHECK.due("23: served", x.served(0), true);
         CHECK.due("24: count", x.slots(2, false), 3);
@@ -179,8 +169,8 @@ public final class RunTest {
         x.run(2);
         Skies.alert(x, 2, 1, 3, 2, 23);
         x.run(1);
-        going("20: the alert", x, 0, Cloudseed.ALERT, 0, 1);
-        going("20: the target at once on another site", x, 1, Cloudseed.TARGET, 0, 1);
+        CHECK.going("20: the alert", x, 0, Cloudseed.ALERT, 0, 1);
+        CHECK.going("20: the target at once on another site", x, 1, Cloudseed.TARGET, 0, 1);
         CHECK.due("21: it does not wait", x.waiting(), 0);
         CHECK.due("24: given back", x.slots(1, true), 2);
         CHECK.due("24: to nobody else", x.slots(2, true), 0);
@@ -192,14 +182,14 @@ public final class RunTest {
         Skies.alert(x, 1, 5, 2, 0, 23);
         Skies.alert(x, 2, 5, 2, 0, 23);
         x.run(1);
-        going("20: the most urgent, the lowest of several", x, 0, Cloudseed.ALERT, 1, 1);
+        CHECK.going("20: the most urgent, the lowest of several", x, 0, Cloudseed.ALERT, 1, 1);
         x.run(2);
-        going("20: the next, not pushing the equal one", x, 0, Cloudseed.ALERT, 2, 1);
+        CHECK.going("20: the next, not pushing the equal one", x, 0, Cloudseed.ALERT, 2, 1);
         x.run(2);
-        going("20: the less urgent one last", x, 0, Cloudseed.ALERT, 0, 1);
+        CHECK.going("20: the less urgent one last", x, 0, Cloudseed.ALERT, 0, 1);
         Skies.alert(x, 3, 4, 1, 0, 23);
         x.run(1);
-        going("20: an equal one waits", x, 0, Cloudseed.ALERT, 0, 2);
+        CHECK.going("20: an equal one waits", x, 0, Cloudseed.ALERT, 0, 2);
         Skies.alert(x, 3, 9, 1, 0, 23);
         x.run(1);
         CHECK.due("23: a more urgent one pushes", x.served(4), true);
@@ -221,7 +211,7 @@ public final class RunTest {
         x.alert(0, 9, 60, 0, 1, 1, 0, 0, 23);
         x.alert(0, 9, 180, 0, 1, 0, 0, 0, 12);
         x.run(3);
-        idle("20: none has come", x, 0);
+        CHECK.idle("20: none has come", x, 0);
         x.run(1);
         CHECK.due("23: one slot", x.served(2), true);
         CHECK.due("23: too long for its slots", x.served(1), false);
@@ -250,11 +240,11 @@ public final class RunTest {
         Cloudseed x = Skies.three();
         Skies.alert(x, 0, 1, 2, 0, 23);
         x.run(1);
-        going("20: on the site 0", x, 0, Cloudseed.ALERT, 0, 1);
-        idle("20: not on another one", x, 1);
+        CHECK.going("20: on the site 0", x, 0, Cloudseed.ALERT, 0, 1);
+        CHECK.idle("20: not on another one", x, 1);
         x.run(2);
         CHECK.due("26: served once", x.data(), 1);
-        idle("20: not again", x, 0);
+        CHECK.idle("20: not again", x, 0);
         CHECK.fails("23: alert 1", Check.INDEX, () -> x.served(1));
         CHECK.fails("23: alert -1", Check.INDEX, () -> x.served(-1));
     }
@@ -268,7 +258,7 @@ public final class RunTest {
         Skies.easy(x, 1, 2, 9);
         Skies.easy(x, 2, 1, 9);
         x.run(1);
-        going("20: of equal groups the lowest, not the rank", x, 0, Cloudseed.TARGET, 1, 1);
+        CHECK.going("20: of equal groups the lowest, not the rank", x, 0, Cloudseed.TARGET, 1, 1);
         x.run(2);
         CHECK.due("24: then the group 2", x.slots(2, false), 1);
         x.run(1);
@@ -279,7 +269,7 @@ public final class RunTest {
         x.share(2, 20);
         x.share(3, 21);
         x.run(1);
-        going("20: 320 - 200 is more than 84 - 100", x, 0, Cloudseed.TARGET, 1, 1);
+        CHECK.going("20: 320 - 200 is more than 84 - 100", x, 0, Cloudseed.TARGET, 1, 1);
         x.run(2);
         CHECK.due("24: 6 * 21 - 100 is more than 6 * 20 - 100", x.slots(3, false), 2);
     }
@@ -296,7 +286,7 @@ public final class RunTest {
         x.run(1);
         CHECK.due("24: slots of alerts count", x.slots(1, false), 1);
         x.run(1);
-        going("20: the group 0 now", x, 0, Cloudseed.TARGET, 0, 1);
+        CHECK.going("20: the group 0 now", x, 0, Cloudseed.TARGET, 0, 1);
         CHECK.due("24: slots of one that goes on do not count yet", x.slots(0, false), 0);
         x.run(5);
         CHECK.due("24: when it is done", x.slots(0, false), 6);
@@ -317,9 +307,9 @@ public final class RunTest {
         Skies.easy(x, 2, 3, 1);
         Skies.easy(x, 1, 2, 1);
         x.run(1);
-        going("20: the greatest rank, the lowest proposal", x, 0, Cloudseed.TARGET, 2, 1);
+        CHECK.going("20: the greatest rank, the lowest proposal", x, 0, Cloudseed.TARGET, 2, 1);
         x.run(2);
-        going("20: then the other of the rank", x, 0, Cloudseed.TARGET, 1, 1);
+        CHECK.going("20: then the other of the rank", x, 0, Cloudseed.TARGET, 1, 1);
         x.run(3);
         CHECK.due("22: then the lower rank", x.visits(0), 1);
     }
@@ -334,11 +324,11 @@ public final class RunTest {
         x.target(0, 15, 0, 2, 0, 30, 100, 50, 1);
         x.weather(0, 0, 3, 4, 50);
         x.run(1);
-        going("20: 14 beginnings are fewer than 15 and 17", x, 0, Cloudseed.TARGET, 1, 1);
+        CHECK.going("20: 14 beginnings are fewer than 15 and 17", x, 0, Cloudseed.TARGET, 1, 1);
         x.run(4);
-        going("20: of equal ones the lowest", x, 0, Cloudseed.TARGET, 2, 1);
+        CHECK.going("20: of equal ones the lowest", x, 0, Cloudseed.TARGET, 2, 1);
         x.run(2);
-        going("20: then the other one", x, 0, Cloudseed.TARGET, 3, 1);
+        CHECK.going("20: then the other one", x, 0, Cloudseed.TARGET, 3, 1);
         Cloudseed y = Skies.one();
         y.proposal(0, 0, 0, 0);
         y.target(0, 115, 0, 1, 0, 30, 100, 50, 1);
@@ -346,7 +336,7 @@ public final class RunTest {
         y.run(11);
         CHECK.due("20: neither is high", y.goingOn(0, 0), Cloudseed.IDLE);
         y.run(1);
-        going("20: the end of the night leaves one less", y, 0, Cloudseed.TARGET, 1, 1);
+        CHECK.going("20: the end of the night leaves one less", y, 0, Cloudseed.TARGET, 1, 1);
         Cloudseed z = Skies.one();
         z.proposal(0, 0, 0, 0);
         z.target(0, 60, 0, 1, 0, 0, 100, 50, 1);
@@ -362,17 +352,17 @@ public final class RunTest {
         x.proposal(0, 0, 0, 0);
         Skies.easy(x, 0, 4, 5);
         x.run(1);
-        idle("20: it goes on elsewhere", x, 1);
+        CHECK.idle("20: it goes on elsewhere", x, 1);
         x.weather(0, 0, 1, 23, 0);
         x.weather(1, 0, 1, 23, 11);
         x.target(0, 60, 0, 4, 0, 0, 100, 10, 5);
         x.run(1);
-        going("20: on the site 1", x, 1, Cloudseed.TARGET, 0, 2);
-        going("20: the other one suits only the site 2", x, 2, Cloudseed.TARGET, 1, 1);
+        CHECK.going("20: on the site 1", x, 1, Cloudseed.TARGET, 0, 2);
+        CHECK.going("20: the other one suits only the site 2", x, 2, Cloudseed.TARGET, 1, 1);
         x.weather(2, 0, 2, 2, 0);
         x.run(2);
         CHECK.due("22: done", x.visits(0), 1);
-        going("20: it went on", x, 2, Cloudseed.TARGET, 1, 2);
+        CHECK.going("20: it went on", x, 2, Cloudseed.TARGET, 1, 2);
         Cloudseed y = Skies.three();
         y.proposal(0, 0, 0, 0);
         y.target(0, 60, 0, 4, 0, 0, 100, 10, 5);
@@ -384,7 +374,7 @@ public final class RunTest {
         CHECK.due("21: it waits", y.waiting(), 1);
         y.weather(2, 0, 4, 23, 10);
         y.run(1);
-        going("20: it is not begun anew", y, 2, Cloudseed.TARGET, 0, 3);
+        CHECK.going("20: it is not begun anew", y, 2, Cloudseed.TARGET, 0, 3);
     }
 
     private static void waitingIsLostBehindTheNight() {
