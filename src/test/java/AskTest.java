@@ -8,7 +8,6 @@ public final class AskTest {
         target();
         series();
         seriesOfATargetThatHasVisits();
-        seriesWhileAVisitGoesOn();
         alert();
         wants();
         chancesByHeights();
@@ -126,21 +125,6 @@ public final class AskTest {
         CHECK.due("14: a visit for j 1", x.visits(0), 3);
         CHECK.due("14: j 1 is made", x.wants(0, 5), false);
         CHECK.due("14: there is no j 2", x.wants(0, 8), false);
-    }
-
-    private static void seriesWhileAVisitGoesOn() {
-        Cloudseed x = Skies.one();
-        x.proposal(0, 0, 0, 0);
-        x.target(0, 60, 0, 2, 0, 0, 100, 50, 2);
-        x.target(0, 60, 0, 2, 0, 0, 100, 50, 2);
-        x.run(1);
-        x.series(0, 0, 9, 1);
-        x.run(2);
-        CHECK.due("14: it is for j 0", x.wants(0, 1), false);
-        x.series(1, 5, 9, 1);
-        x.run(1);
-        CHECK.due("14: it is without a j", x.visits(1), 1);
-        CHECK.due("14: j 0 is not made", x.wants(1, 5), true);
     }
 
     private static void alert() {

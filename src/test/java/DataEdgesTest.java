@@ -274,14 +274,6 @@ public final class DataEdgesTest {
         CHECK.due("it is served", x.served(0), true);
     }
 
-    private static void promise27TheSeeingOfASlotWhenItWasRun() {
-        Cloudseed x = three(0);
-        x.run(2);
-        x.weather(0, 0, 0, 1, 50);
-        x.run(1);
-        CHECK.datum(x, 0, TARGET, 0, 0, 2, 90);
-    }
-
     private static void promise27WhatIsToldLaterChangesNoData() {
         Cloudseed x = three(0);
         x.calibrate(0, 0, 1);

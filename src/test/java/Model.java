@@ -237,6 +237,23 @@ final class Model {
     private final World world = new World();
     private int phase;
 
+    int now() {
+        return world.now;
+    }
+
+    /** Whether a visit goes on or waits. */
+    boolean isAnyVisitMade() {
+        return !world.waiting.isEmpty() || world.on[0] != null || world.on[1] != null || world.on[2] != null;
+    }
+
+    boolean isVisitMade(int target) {
+        if (!in(target, 0, targets.size() - 1)) {
+            return false;
+        }
+        Made m = targets.get(target);
+        return world.busy(m) || world.waiting.stream().anyMatch(v -> v.of == m);
+    }
+
     private static int angle(int a, int b) {
         int way = ((a - b) % 360 + 360) % 360;
         return way < 360 - way ? way : 360 - way;

@@ -1154,11 +1154,13 @@ public final class RunEdgesTest {
     private static void promise25ByWhatWasToldWhenItWasRun() {
         Cloudseed x = new Cloudseed();
         x.weather(0, 0, 0, 0, 0);
-        x.run(2);
+        x.run(3);
         x.weather(0, 0, 0, 0, 10);
-        x.weather(0, 0, 1, 1, 0);
+        CHECK.due("closed, though told as open later", x.lost(0, true), 1);
+        CHECK.due("open", x.lost(0, false), 2);
+        x.weather(0, 0, 1, 2, 0);
         CHECK.due("closed", x.lost(0, true), 1);
-        CHECK.due("open", x.lost(0, false), 1);
+        CHECK.due("open, though told as closed later", x.lost(0, false), 2);
     }
 
     private static void promise25QuestionsChangeNothing() {
