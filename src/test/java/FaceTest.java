@@ -6,8 +6,13 @@ import java.lang.reflect.Modifier;
 import java.nio.file.Files;
 import java.nio.file.Path;
 import java.util.Arrays;
+import java.util.HashMap;
 import java.util.List;
+import java.util.Map;
+import java.util.Set;
 import java.util.TreeSet;
+import java.util.regex.Matcher;
+import java.util.regex.Pattern;
 
 /** The public face, the constants, and those rules of ../shared/LANGUAGE.md that can be seen from outside. */
 public final class FaceTest {
@@ -39,7 +44,10 @@ public final class FaceTest {
         face();
         members();
         insides();
-        text();
+        String source = Files.readString(Path.of("src/main/java/Cloudseed.java"));
+        text(source);
+        library(source);
+        depth(source);
         CHECK.end();
     }
 
@@ -109,10 +117,9 @@ public final class FaceTest {
         CHECK.due("rule 11: at most twenty fields has " + one, count <= 20, true);
     }
 
-    private static void text() throws IOException {
-        String source = Files.readString(Path.of("src/main/java/Cloudseed.java"));
-        for (String token : List.of("->", "::", "import ", "package ", "catch ", "finally", "synchronized",
-                "assert ", "static {", "new Object", "toString", "hashCode", "NaN")) {
+    private static void text(String source) {
+        for (String token : List.of("->", "::", "import ", "package ", "try ", "catch ", "finally", "synchronized",
+                "assert ", "static {", "new Object", "toString", "hashCode", "NaN", "Exact(", "equals(")) {
             CHECK.due("no " + token, source.contains(token), false);
         }
         CHECK.due("signs 1 to 127", source.chars().allMatch(c -> c > 0 && c < 128), true);
@@ -125,5 +132,55 @@ public final class FaceTest {
             CHECK.due("rule 11: a short method from the line " + (start + 1), closes && i - start > 60, false);
             start = closes ? i : start;
         }
+    }
+
+    /** Rules 4 and 6: what is called of the library, and what is thrown. */
+    private static void library(String source) {
+        Set<String> may = Set.of("Math.abs", "Math.max", "Math.min", "Integer.compare", "System.arraycopy");
+        Matcher used = Pattern.compile("\\b(?:Math|Integer|Long|System|Arrays|String|List)\\.\\w+").matcher(source);
+        while (used.find()) {
+            CHECK.due("rule 4: it may use " + used.group(), may.contains(used.group()), true);
+        }
+        Set<String> thrown = Set.of(INDEX, ARGUMENT, STATE);
+        Matcher thrower = Pattern.compile("\\bthrow (new (\\w+)\\(\"[^\"]+\"\\);)?").matcher(source);
+        while (thrower.find()) {
+            boolean right = thrower.group(2) != null && thrown.contains(thrower.group(2));
+            CHECK.due("rule 6: it may throw " + thrower.group(), right, true);
+        }
+    }
+
+    /** Rule 11: calls go at most eight deep; it holds no recursion, which would have no end here. */
+    private static void depth(String source) {
+        Map<String, Set<String>> calls = new HashMap<>();
+        Pattern start = Pattern.compile("^ {4}(?: {4})?(?:\\w+(?:\\[])? )*(\\w+)\\(");
+        Pattern call = Pattern.compile("((?:(?:Math|Integer|System)\\.)?\\w+)\\(");
+        Set<String> inside = new TreeSet<>();
+        for (String line : source.split("\n")) {
+            Matcher method = start.matcher(line);
+            Matcher called = call.matcher(line);
+            if (method.find() && !line.endsWith(";") && !line.contains(" = ") && !line.matches(" *(if|for|while) .*")) {
+                inside = calls.computeIfAbsent(method.group(1), name -> new TreeSet<>());
+                called.region(method.end(), line.length());
+            }
+            while (called.find() && !line.trim().startsWith("*") && !line.trim().startsWith("/")) {
+                inside.add(called.group(1));
+            }
+        }
+        CHECK.due("all methods are found", calls.keySet().containsAll(Set.of("run", "angle", "suits", "Course")), true);
+        for (String name : calls.keySet()) {
+            int deep = deep(name, calls, 1);
+            CHECK.due("rule 11: " + deep + " calls deep goes " + name, deep <= 8, true);
+        }
+    }
+
+    /** A name that is not the class's own is one of the library. */
+    private static int deep(String name, Map<String, Set<String>> calls, int level) {
+        int deepest = level;
+        if (level < 20 && calls.containsKey(name)) {
+            for (String called : calls.get(name)) {
+                deepest = Math.max(deepest, deep(called, calls, level + 1));
+            }
+        }
+        return deepest;
     }
 }

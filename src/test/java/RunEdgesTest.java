@@ -1106,6 +1106,32 @@ public final class RunEdgesTest {
         }
     }
 
+    /** A visit that has two slots of the site 0 and one of the site 1, on which it goes on, as long as that is open. */
+    private static Cloudseed handedOver() {
+        Cloudseed x = three(1);
+        Skies.easy(x, 0, 6, 1);
+        x.weather(0, 0, 2, 23, 0);
+        x.weather(2, 0, 0, 23, 0);
+        x.run(3);
+        CHECK.going("on the site 1", x, 1, TARGET, 0, 3);
+        return x;
+    }
+
+    private static void promise24AsManyAsItHadOnAllSites() {
+        Cloudseed waits = handedOver();
+        waits.weather(1, 0, 3, 23, 0);
+        waits.run(21);
+        CHECK.due("lost behind the night", waits.slots(0, true), 3);
+        Cloudseed pushed = handedOver();
+        Skies.alert(pushed, 1, 1, 1, 3, 3);
+        pushed.run(1);
+        CHECK.due("pushed aside", pushed.slots(0, true), 3);
+        Cloudseed done = handedOver();
+        done.run(3);
+        CHECK.due("done", done.slots(0, false), 6);
+        CHECK.due("none back", done.slots(0, true), 0);
+    }
+
     private static void promise24AddedToWhatItHasGotBack() {
         Cloudseed x = one(1);
         Skies.easy(x, 0, 6, 10);
